@@ -552,7 +552,7 @@ public final class GlobalSpan {
             for (int at = start; at < end; at++) {
                 hash = 31 * hash + from[at];
             }
-            int chain = hash & CHAINS - 1;
+            int chain = hash & (CHAINS - 1);
             for (int place = heads[chain]; place != 0; place = behind[place]) {
                 if (isAtPlace(place, from, start, end)) {
                     return LIMIT + place;

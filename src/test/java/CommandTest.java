@@ -24,6 +24,7 @@ public final class CommandTest {
         merges();
         calls();
         callErrors();
+        callParts();
         callLimit();
         frameLimit();
         Check.finish("CommandTest");
@@ -320,6 +321,7 @@ public final class CommandTest {
         p.x.run(job, 1);
         due("as they were", p.looked(job, zero) + p.looked(job, one), "12");
         due("nothing is left of it", p.looked(job, p.one('D', zero)), "1");
+        due("those behind them stay", p.looked(job, p.local(2)), "4");
         p.x.run(job, 2);
         due("the last frame", p.looked(job, p.local(1)), "9");
         p.x.run(job, 1);
@@ -579,6 +581,31 @@ public final class CommandTest {
             q.x.run(other, 2);
             due("h, C and R within a call", q.x.error(other), 'x');
         }
+    }
+
+    /** Calls as parts of calls, in a loop, as often as parts that were kept would not fit any more. */
+    private static void callParts() {
+        Program p = new Program();
+        int one = p.number(1);
+        int i = p.local(0);
+        int inner = p.call(2, i, i, i, i, i, i, i, i);
+        p.line(0, p.loop(0, one, one, p.number(80), 1), p.show(p.local(1)));
+        p.line(1, p.set(p.local(1), p.two('+', p.call(2, inner, p.call(2, i, i), i, i, i, i, i, p.local(1)), one)));
+        p.line(2, p.one('q', p.local(7)));
+        int job = p.x.job(0);
+        for (int call = 0; call < 3; call++) {
+            p.x.run(job, 200);
+        }
+        due("the eighth part each time", p.shown(job), "80");
+        int error = p.call(2, i, i, i, i, i, i, i, p.two('/', one, p.local(3)));
+        p.line(3, p.loop(0, one, one, p.number(90), 4), p.show(p.local(1)), p.show(inner));
+        p.line(4, p.trap(5), p.show(error));
+        p.line(5, p.set(p.local(1), p.two('+', p.local(1), one)));
+        int other = p.x.job(3);
+        for (int call = 0; call < 3; call++) {
+            p.x.run(other, 200);
+        }
+        due("parts of calls that were errors are gone", p.shown(other), "9091");
     }
 
     /** A call of which the line does a loop from 1 to a number, with one command each, and a q. */

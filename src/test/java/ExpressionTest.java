@@ -6,6 +6,7 @@ public final class ExpressionTest {
     public static void main(String[] args) {
         numbersOfTexts();
         writtenNumbers();
+        manyTexts();
         reckoning();
         comparing();
         cutting();
@@ -60,6 +61,27 @@ public final class ExpressionTest {
             at = p.looked(job, p.two('O', locals.get(at), 0));
             due("subscript " + i, at, due[i]);
         }
+    }
+
+    /** More texts than the first tables hold, as subscripts, and all found again. */
+    private static void manyTexts() {
+        Program p = new Program();
+        int one = p.number(1);
+        int key = p.two('_', p.two('_', p.text("key"), p.local(0)), p.text("of many"));
+        p.line(0, p.loop(0, one, one, p.number(90), 1), p.show(p.local(1, key)));
+        p.line(1, p.set(p.local(1, key), p.two('_', p.local(0), p.text(" is it"))));
+        int job = p.x.job(0);
+        p.x.run(job, 182);
+        due("the last one", p.looked(job, p.local(1, key)), "");
+        p.line(2, p.loop(0, one, one, p.number(90), 3));
+        p.line(3, p.two('c', p.two('=', p.local(1, key), p.two('_', p.local(0), p.text(" is it"))),
+            p.set(p.local(2), p.two('+', p.local(2), one))), p.set(p.local(1, key), one));
+        p.line(4, p.loop(0, one, one, p.number(90), 1), p.of('d', 2, 0, 0));
+        int other = p.x.job(4);
+        for (int call = 0; call < 3; call++) {
+            p.x.run(other, 200);
+        }
+        due("each found again", p.looked(other, p.local(2)), "90");
     }
 
     private static void reckoning() {
@@ -146,6 +168,8 @@ public final class ExpressionTest {
         due("P 2 of what is not there", p.value(p.of('P', text, p.text("x"), p.number(2))), "");
         due("P by the empty text", p.value(p.of('P', text, p.text(""), p.number(1))), "error p");
         due("P of the empty text", p.value(p.of('P', p.text(""), by, p.number(1))), "");
+        due("P of a text that begins so", p.value(p.of('P', p.text("--a"), by, p.number(2))), "a");
+        due("P of the same", p.value(p.of('P', by, by, p.number(2))), "");
         due("P of overlaps", p.value(p.of('P', p.text("a---b"), by, p.number(2))), "-b");
         due("P does all ahead of p",
             p.value(p.of('P', text, p.text(""), p.two('/', by, by))), "error z");
@@ -273,9 +297,17 @@ public final class ExpressionTest {
         due("I of nothing", p.shown(job), "1");
         p.x.run(job, 2);
         due("I has its number behind b", p.shown(job), "130");
-        p.x.run(job, 5);
+        p.x.run(job, 2);
         due("I of too much", p.x.error(job), 'o');
         due("nothing is given by an error", p.looked(job, local), "30");
+        p.line(2, p.show(p.two('I', p.global(0, one), p.global(1, one, one))), p.show(p.naked(p.number(2))));
+        p.line(3, p.set(p.global(1, one, one), one), p.set(p.global(1, one, p.number(2)), p.text("!")));
+        p.x.run(p.x.job(3), 2);
+        int other = p.x.job(2);
+        p.x.run(other, 2);
+        due("I remembers ahead of b", p.shown(other), "1!");
+        due("I gives to its own reference", p.looked(other, p.global(0, one)), "1");
+        due("and not to that of b", p.x.nodes(1), 2);
     }
 
     private static void naked() {

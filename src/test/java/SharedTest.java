@@ -16,6 +16,9 @@ public final class SharedTest {
         rollBack();
         isolation();
         restart();
+        restartFrames();
+        restartLoops();
+        timesOfEach();
         fourthTime();
         whatIsRead();
         whatIsNotRead();
@@ -351,6 +354,95 @@ public final class SharedTest {
         p.x.run(job, 9);
         due("all", p.shown(job), "x.!");
         due("steps count", p.x.steps(job), 15 + 8 + 3);
+    }
+
+    /** Traps and saved locals of frames come back, and what was read is forgotten. */
+    private static void restartFrames() {
+        Program p = new Program();
+        int name = p.global(0);
+        int first = p.local(0);
+        int second = p.local(1);
+        int not = p.one('!', name);
+        int m = p.text("m");
+        p.line(0, p.set(first, p.text("a")), p.set(second, p.text("k")), p.of('d', 1, 0, 0), p.show(first),
+            p.show(second));
+        p.line(1, p.one('w', 1), p.set(first, m), p.trap(2), p.none('B'), p.two('c', not, p.trap(-1)),
+            p.two('c', not, p.one('w', 6)), p.none('C'), p.set(second, m), p.none('B'), p.set(p.global(1), m),
+            p.none('C'), p.show(p.naked(name)));
+        p.line(2, p.show(p.text("!")));
+        p.line(3, p.set(name, p.number(1)), p.set(name, p.number(2)));
+        int job = p.x.job(0);
+        int other = p.x.job(3);
+        p.x.run(job, 9);
+        due("saved within", p.looked(job, second), "");
+        p.x.run(other, 1);
+        p.x.run(job, 1);
+        due("begun again", p.x.restarts(job), 1);
+        due("locals as they were", p.looked(job, first) + p.looked(job, second), "mk");
+        p.x.run(job, 5);
+        due("the next one", p.x.level(job), 1);
+        p.x.run(other, 1);
+        p.x.run(job, 2);
+        due("has its own reads", p.x.restarts(job), 1);
+        due("and ends", p.x.level(job), 0);
+        p.x.run(job, 1);
+        due("an error", p.x.error(job), 'n');
+        due("the trap is back", p.x.depth(job), 2);
+        p.x.run(job, 3);
+        due("saved ones are those of the frame as it was", p.shown(job), "!am");
+    }
+
+    /** A loop that was ended, and a truth that was 1, are as they were. */
+    private static void restartLoops() {
+        Program p = new Program();
+        int name = p.global(0);
+        int one = p.number(1);
+        int not = p.one('!', name);
+        p.line(0, p.trap(3), p.one('i', one), p.loop(0, one, one, p.number(2), 1), p.none('C'));
+        p.line(1, p.none('B'), p.two('c', not, p.of('d', 2, 0, 0)), p.two('c', not, p.none('z')), p.none('C'),
+            p.show(p.local(0)));
+        p.line(2, p.one('i', p.text("")));
+        p.line(3, p.show(p.text("e")), p.show(p.none('T')));
+        p.line(4, p.set(name, one));
+        int job = p.x.job(0);
+        int other = p.x.job(4);
+        p.x.run(job, 8);
+        due("the loop is ended within", p.x.depth(job), 1);
+        due("the truth is 0", p.x.truth(job), 0);
+        p.x.run(other, 1);
+        p.x.run(job, 1);
+        due("begun again", p.x.restarts(job), 1);
+        due("in the line of the loop", p.x.depth(job), 2);
+        due("the truth is 1", p.x.truth(job), 1);
+        p.x.run(job, 50);
+        due("the loop goes on", p.shown(job), "12e1");
+        due("its C is alone", p.x.error(job), 't');
+    }
+
+    private static void timesOfEach() {
+        Program p = new Program();
+        int one = p.number(1);
+        int global = p.global(0);
+        int read = p.set(p.local(0), global);
+        p.line(0, p.none('B'), read, p.none('C'), p.none('B'), read, p.none('C'));
+        p.line(1, p.loop(0, one, one, p.number(99), 2));
+        p.line(2, p.set(global, p.local(0)));
+        int job = p.x.job(0);
+        int other = p.x.job(1);
+        p.x.run(other, 1);
+        for (int transaction = 0; transaction < 2; transaction++) {
+            p.x.run(job, 1);
+            for (int time = 0; time < 3; time++) {
+                p.x.run(job, 1);
+                p.x.run(other, 2);
+                p.x.run(job, 1);
+            }
+            p.x.run(job, 2);
+            due("ended in its own times", p.x.level(job), 0);
+        }
+        due("in all", p.x.restarts(job), 6);
+        due("no error", p.x.state(job), 'd');
+        due("the last value", p.looked(job, p.local(0)), "6");
     }
 
     /** A job that reads a global in a transaction, and one that changes it. */

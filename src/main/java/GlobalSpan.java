@@ -888,14 +888,14 @@ public final class GlobalSpan {
 
         /** Has the rows of a name as another tree has them. */
         void copyName(Tree other, int name) {
-            dropName(name);
-            int at = placeOfName(name);
-            int from = other.placeOfName(name);
-            int length = other.placeOfName(name + 1) - from;
+            int from = placeOfName(name);
+            int to = placeOfName(name + 1);
+            int otherFrom = other.placeOfName(name);
+            int length = other.placeOfName(name + 1) - otherFrom;
             makeRoom(count + length);
-            System.arraycopy(cells, at * WIDTH, cells, (at + length) * WIDTH, (count - at) * WIDTH);
-            System.arraycopy(other.cells, from * WIDTH, cells, at * WIDTH, length * WIDTH);
-            count += length;
+            System.arraycopy(cells, to * WIDTH, cells, (from + length) * WIDTH, (count - to) * WIDTH);
+            System.arraycopy(other.cells, otherFrom * WIDTH, cells, from * WIDTH, length * WIDTH);
+            count += length - (to - from);
         }
 
         /** Puts all rows of another tree that are this one or below it. */
@@ -1573,18 +1573,15 @@ public final class GlobalSpan {
 
         /** What comes of an expression as the job sees all, NONE if it is an error. */
         int valueSeen(int node) {
+            int text;
             isLooking = true;
-            int text = valueOrNone(node);
+            try {
+                text = value(node);
+            } catch (IllegalStateException error) {
+                text = Texts.NONE;
+            }
             isLooking = false;
             return text;
-        }
-
-        private int valueOrNone(int node) {
-            try {
-                return value(node);
-            } catch (IllegalStateException error) {
-                return Texts.NONE;
-            }
         }
 
         /** Ends the frames that have nothing left, and the job that has none. */

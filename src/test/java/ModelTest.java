@@ -235,7 +235,9 @@ public final class ModelTest {
         if (commands.isEmpty()) {
             return;
         }
-        int list = isTame && random.nextInt(3) > 0 ? transaction() : listOf(commands, 1 + random.nextInt(7));
+        int made = isTame && random.nextInt(3) > 0 ? transaction() : listOf(commands, 1 + random.nextInt(7));
+        int trap = random.nextInt(3) > 0 ? node('r', random.nextInt(5), 0, 0) : -1;
+        int list = trap >= 0 ? behind(List.of(trap), made) : made;
         lists.add(list);
         int number = random.nextInt(5) == 0 && !lists.isEmpty() ? any(lists) : list;
         both("line(" + line + ", " + number + ")", () -> real.line(line, number), () -> model.line(line, number));

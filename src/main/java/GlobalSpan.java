@@ -313,6 +313,7 @@ public final class GlobalSpan {
         private int[] ends;
         private int[] behind;
         private int count;
+        private int keptCount;
         private final int[] heads;
         private final char[] left;
         private final char[] right;
@@ -333,6 +334,26 @@ public final class GlobalSpan {
 
         static boolean isNumber(int text) {
             return text > -LIMIT && text < LIMIT;
+        }
+
+        int size() {
+            return count;
+        }
+
+        /** Tells that something has a text from now on, so that it stays. */
+        void keep(int text) {
+            if (text > LIMIT) {
+                keptCount = Math.max(keptCount, text - LIMIT + 1);
+            }
+        }
+
+        /** Forgets the texts that were made since the table had a size, as long as nothing has them. */
+        void release(int size) {
+            int least = Math.max(Math.max(size, keptCount), 1);
+            for (int place = count - 1; place >= least; place--) {
+                heads[chainOf(signs, ends[place - 1], ends[place])] = behind[place];
+                count = place;
+            }
         }
 
         int numberOf(int text) {
@@ -526,7 +547,7 @@ public final class GlobalSpan {
                 return EMPTY;
             }
             int number = numberWritten(from, start, end);
-            return number != NONE ? number : kept(from, start, end);
+            return number != NONE ? number : LIMIT + placeOf(from, start, end);
         }
 
         /** The number that is written as one would be, else NONE. */
@@ -546,23 +567,27 @@ public final class GlobalSpan {
             return first > start ? -number : number;
         }
 
-        /** The text by its place in the table, a new one if it is not there yet. */
-        private int kept(char[] from, int start, int end) {
+        /** The place of a text in the table, a new one if it is not there yet. */
+        private int placeOf(char[] from, int start, int end) {
+            int chain = chainOf(from, start, end);
+            for (int place = heads[chain]; place != 0; place = behind[place]) {
+                if (isAtPlace(place, from, start, end)) {
+                    return place;
+                }
+            }
+            append(from, start, end - start);
+            // the newest one leads its chain, so that places in it only go down, and release finds it first
+            behind[count - 1] = heads[chain];
+            heads[chain] = count - 1;
+            return count - 1;
+        }
+
+        private static int chainOf(char[] from, int start, int end) {
             int hash = 0;
             for (int at = start; at < end; at++) {
                 hash = 31 * hash + from[at];
             }
-            int chain = hash & (CHAINS - 1);
-            for (int place = heads[chain]; place != 0; place = behind[place]) {
-                if (isAtPlace(place, from, start, end)) {
-                    return LIMIT + place;
-                }
-            }
-            append(from, start, end - start);
-            // the newest one leads its chain, so that places in it only go down
-            behind[count - 1] = heads[chain];
-            heads[chain] = count - 1;
-            return LIMIT + count - 1;
+            return hash & (CHAINS - 1);
         }
 
         private void append(char[] from, int start, int length) {
@@ -1511,7 +1536,10 @@ public final class GlobalSpan {
         }
     }
 
-    /** Does the commands and the expressions of a job. An error is thrown, its letter being kept. */
+    /**
+     * Does the commands and the expressions of a job. An error gives NONE, or false for what gives no text, and its
+     * letter is kept; it is no exception, as a long run may have so many that these would fill the room.
+     */
     private static final class Machine {
         private static final int CALL_STEPS = 200;
         private static final int ALL_LOCALS = 255;
@@ -1573,14 +1601,12 @@ public final class GlobalSpan {
 
         /** What comes of an expression as the job sees all, NONE if it is an error. */
         int valueSeen(int node) {
-            int text;
+            int before = texts.size();
             isLooking = true;
-            try {
-                text = value(node);
-            } catch (IllegalStateException error) {
-                text = Texts.NONE;
-            }
+            int text = value(node);
             isLooking = false;
+            texts.keep(text);
+            texts.release(before);
             return text;
         }
 
@@ -1594,28 +1620,28 @@ public final class GlobalSpan {
             }
         }
 
-        private void fail(char letter) {
+        /** An error in place of a text. */
+        private int noText(char letter) {
             failure = letter;
-            throw new IllegalStateException("an error of the language");
+            return Texts.NONE;
+        }
+
+        /** An error of what gives no text. */
+        private boolean notDone(char letter) {
+            failure = letter;
+            return false;
         }
 
         // ---- steps
 
         /** Does a step in the frames from the bottom on; false if an error ended all of these. */
         private boolean step(int bottom) {
-            int before = givenCount;
-            boolean isGoingOn = !isFailing() || isCaught(bottom);
-            givenCount = before;
+            int partsBefore = givenCount;
+            int textsBefore = texts.size();
+            boolean isGoingOn = advance() || isCaught(bottom);
+            givenCount = partsBefore;
+            texts.release(textsBefore);
             return isGoingOn;
-        }
-
-        private boolean isFailing() {
-            try {
-                advance();
-                return false;
-            } catch (IllegalStateException error) {
-                return true;
-            }
         }
 
         /** Ends frames down to one with a trap. A call that went too far has none. */
@@ -1634,80 +1660,96 @@ public final class GlobalSpan {
             return false;
         }
 
-        private void advance() {
+        private boolean advance() {
             Frame frame = job.last();
             if (frame.loop != Code.NO_NODE) {
-                goOnWithLoop(frame);
-                return;
+                return goOnWithLoop(frame);
             }
             int list = frame.next;
             frame.next = code.b(list);
-            command(code.a(list));
+            return command(code.a(list));
         }
 
-        private void beginLine(int line) {
+        private boolean beginLine(int line) {
             if (job.depth >= Job.FRAMES) {
-                fail('f');
+                return notDone('f');
             }
             job.beginFrame(code.listOf(line));
+            return true;
         }
 
         // ---- commands
 
-        private void command(int node) {
+        /** Does a command; false if it is an error. */
+        private boolean command(int node) {
             int a = code.a(node);
             int b = code.b(node);
             switch (code.kind(node)) {
-                case 's': set(a, b); break;
-                case 'k': refer(a, PLAIN); noteRead(Tree.KEYS); change(Texts.NONE); break;
-                case 'm': merge(a, b); break;
-                case 'i': decide(texts.isTrue(value(a))); break;
-                case 'e': leaveOut(job.truth == 1); break;
-                case 'c':
-                    if (texts.isTrue(value(a))) {
-                        command(b);
-                    }
-                    break;
-                case 'd': beginLine(a); break;
-                case 'f': beginLoop(node, a, b); break;
-                case 'z': endLoop(); break;
-                case 'q': quit(a); break;
-                case 'w': job.save(a); break;
-                case 'o': show(value(a)); break;
-                case 'r': job.last().trap = a; break;
-                default: jobCommand(code.kind(node), a, b); break;
+                case 's': return set(a, b);
+                case 'k': return kill(a);
+                case 'm': return merge(a, b);
+                case 'i': return decide(value(a));
+                case 'e': leaveOut(job.truth == 1); return true;
+                case 'c': {
+                    int text = value(a);
+                    return text != Texts.NONE && (!texts.isTrue(text) || command(b));
+                }
+                case 'd': return beginLine(a);
+                case 'f': return beginLoop(node, a, b);
+                case 'z': return endLoop();
+                case 'q': return a == Code.NO_NODE ? quit(Texts.NONE) : quitWith(value(a));
+                case 'w': job.save(a); return true;
+                case 'o': return show(value(a));
+                case 'r': job.last().trap = a; return true;
+                default: return jobCommand(code.kind(node), a, b);
             }
         }
 
         /** The commands that a call must not do. */
-        private void jobCommand(char kind, int a, int b) {
+        private boolean jobCommand(char kind, int a, int b) {
             if (calls > 0) {
-                fail('x');
+                return notDone('x');
             }
             switch (kind) {
-                case 'h': job.end(Job.DONE); break;
-                case 'l': lock(a, b); break;
-                case 'u': job.claims.giveUp(); break;
-                case 'B': beginTransaction(); break;
-                case 'C': endTransaction(); break;
-                case 'R': rollBack(); break;
-                default: break;
+                case 'h': job.end(Job.DONE); return true;
+                case 'l': return lock(a, b);
+                case 'u': job.claims.giveUp(); return true;
+                case 'B': beginTransaction(); return true;
+                case 'C': return job.level == 0 ? notDone('t') : endTransaction();
+                case 'R': return job.level == 0 ? notDone('t') : rollBack();
+                default: return true;
             }
         }
 
-        private void set(int reference, int expression) {
+        private boolean set(int reference, int expression) {
             int text = value(expression);
-            refer(reference, PLAIN);
+            if (text == Texts.NONE || !refer(reference, PLAIN)) {
+                return false;
+            }
             change(text);
+            return true;
         }
 
-        private void merge(int to, int from) {
-            refer(from, PLAIN);
+        private boolean kill(int reference) {
+            if (!refer(reference, PLAIN)) {
+                return false;
+            }
+            noteRead(Tree.KEYS);
+            change(Texts.NONE);
+            return true;
+        }
+
+        private boolean merge(int to, int from) {
+            if (!refer(from, PLAIN)) {
+                return false;
+            }
             int name = place[0];
             int first = place[1];
             int second = place[2];
             int third = place[3];
-            refer(to, PLAIN);
+            if (!refer(to, PLAIN)) {
+                return false;
+            }
             System.arraycopy(place, 0, target, 0, Tree.KEYS);
             setPlace(name, first, second, third);
             noteRead(Tree.KEYS);
@@ -1719,6 +1761,7 @@ public final class GlobalSpan {
                     change(merged.textAt(i));
                 }
             }
+            return true;
         }
 
         /** Makes the place the target with the keys behind that a merged row has from a depth on, if these fit. */
@@ -1735,9 +1778,13 @@ public final class GlobalSpan {
             return true;
         }
 
-        private void decide(boolean isTrue) {
-            job.truth = isTrue ? 1 : 0;
-            leaveOut(!isTrue);
+        private boolean decide(int text) {
+            if (text == Texts.NONE) {
+                return false;
+            }
+            job.truth = texts.isTrue(text) ? 1 : 0;
+            leaveOut(job.truth == 0);
+            return true;
         }
 
         private void leaveOut(boolean isLeftOut) {
@@ -1746,79 +1793,106 @@ public final class GlobalSpan {
             }
         }
 
-        private void quit(int expression) {
-            int text = expression == Code.NO_NODE ? Texts.NONE : value(expression);
-            job.last().given = text;
-            job.endFrames(job.depth - 1);
+        private boolean quitWith(int text) {
+            return text != Texts.NONE && quit(text);
         }
 
-        private void show(int text) {
+        private boolean quit(int text) {
+            texts.keep(text);
+            job.last().given = text;
+            job.endFrames(job.depth - 1);
+            return true;
+        }
+
+        private boolean show(int text) {
+            if (text == Texts.NONE) {
+                return false;
+            }
             int length = texts.lengthOf(text);
             for (int at = 0; at < length; at++) {
                 job.show(texts.signAt(text, at));
             }
+            return true;
         }
 
         // ---- loops
 
-        private void beginLoop(int node, int local, int list) {
-            int from = texts.numberOf(value(code.a(list)));
+        private boolean beginLoop(int node, int local, int list) {
             int behind = code.b(list);
-            int step = texts.numberOf(value(code.a(behind)));
-            int last = texts.numberOf(value(code.a(code.b(behind))));
+            int from = value(code.a(list));
+            int step = from == Texts.NONE ? Texts.NONE : value(code.a(behind));
+            int last = step == Texts.NONE ? Texts.NONE : value(code.a(code.b(behind)));
+            if (last == Texts.NONE) {
+                return false;
+            }
             Frame frame = job.last();
             frame.loop = node;
-            frame.step = step;
-            frame.last = last;
+            frame.step = texts.numberOf(step);
+            frame.last = texts.numberOf(last);
             frame.isFirst = true;
             setPlace(local, Texts.NONE, Texts.NONE, Texts.NONE);
-            job.locals.set(place, 0, from);
+            job.locals.set(place, 0, texts.numberOf(from));
+            return true;
         }
 
-        private void goOnWithLoop(Frame frame) {
+        private boolean goOnWithLoop(Frame frame) {
             setPlace(code.a(frame.loop), Texts.NONE, Texts.NONE, Texts.NONE);
+            int number = texts.numberOf(job.locals.get(place));
             if (!frame.isFirst) {
-                job.locals.set(place, 0, reckoned((long) texts.numberOf(job.locals.get(place)) + frame.step));
+                int stepped = reckoned((long) number + frame.step);
+                if (stepped == Texts.NONE) {
+                    return false;
+                }
+                number = stepped;
+                job.locals.set(place, 0, number);
             }
             frame.isFirst = false;
-            int number = texts.numberOf(job.locals.get(place));
             if (frame.step >= 0 ? number > frame.last : number < frame.last) {
                 frame.loop = Code.NO_NODE;
-            } else {
-                beginLine(code.c(frame.loop));
+                return true;
             }
+            return beginLine(code.c(frame.loop));
         }
 
-        private void endLoop() {
+        private boolean endLoop() {
             int at = job.depth - 1;
             while (at >= callBottom && job.frames[at].loop == Code.NO_NODE) {
                 at--;
             }
             if (at < callBottom) {
-                fail('l');
+                return notDone('l');
             }
             job.endFrames(at + 1);
             job.last().loop = Code.NO_NODE;
+            return true;
         }
 
         // ---- locks and transactions
 
-        private void lock(int list, int tries) {
+        private boolean lock(int list, int tries) {
             Claims claims = job.claims;
             claims.wantNothing();
             for (int part = list; part != Code.NO_NODE; part = code.b(part)) {
-                refer(code.a(part), LOCKED);
+                if (!refer(code.a(part), LOCKED)) {
+                    return false;
+                }
+                keepPlace();
                 claims.want(place);
             }
             claims.isCounted = tries != Code.NO_NODE;
             if (claims.isCounted) {
-                claims.triesLeft = texts.numberOf(value(tries));
+                int most = value(tries);
+                if (most == Texts.NONE) {
+                    return false;
+                }
+                claims.triesLeft = texts.numberOf(most);
             }
             if (claims.isCounted && claims.triesLeft < 1) {
                 job.truth = 0;
             } else {
                 tryToLock();
             }
+            return true;
         }
 
         private void tryToLock() {
@@ -1857,8 +1931,7 @@ public final class GlobalSpan {
             job.level++;
         }
 
-        private void endTransaction() {
-            checkTransaction();
+        private boolean endTransaction() {
             Transaction transaction = job.transaction;
             if (job.level > 1) {
                 job.level--;
@@ -1874,19 +1947,14 @@ public final class GlobalSpan {
                 job.restarts++;
             } else {
                 job.level = 0;
-                fail('t');
+                return notDone('t');
             }
+            return true;
         }
 
-        private void rollBack() {
-            checkTransaction();
+        private boolean rollBack() {
             job.level = 0;
-        }
-
-        private void checkTransaction() {
-            if (job.level == 0) {
-                fail('t');
-            }
+            return true;
         }
 
         // ---- references
@@ -1900,12 +1968,20 @@ public final class GlobalSpan {
 
         /** Gives the node at the place a value, or kills it by NONE. */
         private void change(int text) {
+            keepPlace();
+            texts.keep(text);
             if (place[0] >= Job.LOCALS && job.level > 0) {
                 job.transaction.change(place, text);
             } else if (place[0] >= Job.LOCALS) {
                 store.change(place, text);
             } else {
                 job.locals.set(place, 0, text);
+            }
+        }
+
+        private void keepPlace() {
+            for (int key = 1; key < Tree.KEYS; key++) {
+                texts.keep(place[key]);
             }
         }
 
@@ -1920,6 +1996,7 @@ public final class GlobalSpan {
             if (isLooking || job.level == 0 || place[0] < Job.LOCALS) {
                 return;
             }
+            keepPlace();
             Arrays.fill(readRow, Texts.NONE);
             System.arraycopy(place, 0, readRow, 0, Math.min(Math.max(keys, 1), Tree.KEYS));
             job.transaction.read.set(readRow, 0, 1);
@@ -1932,8 +2009,8 @@ public final class GlobalSpan {
             place[3] = third;
         }
 
-        /** Does a reference: the place becomes where it is. */
-        private void refer(int node, int way) {
+        /** Does a reference: the place becomes where it is. False if it is an error. */
+        private boolean refer(int node, int way) {
             boolean isNaked = code.kind(node) == 'n';
             int first = Texts.NONE;
             int second = Texts.NONE;
@@ -1942,6 +2019,9 @@ public final class GlobalSpan {
             int list = isNaked ? code.a(node) : code.b(node);
             for (int part = list; part != Code.NO_NODE; part = code.b(part)) {
                 int text = value(code.a(part));
+                if (text == Texts.NONE) {
+                    return false;
+                }
                 count++;
                 if (count == 1) {
                     first = text;
@@ -1951,12 +2031,15 @@ public final class GlobalSpan {
                     third = text;
                 }
             }
+            if (isNaked && job.remembered[0] == Texts.NONE) {
+                return notDone('n');
+            }
             boolean hasEmpty = first == Texts.EMPTY && (way != ORDERED || count > 1)
                 || second == Texts.EMPTY && (way != ORDERED || count > 2)
                 || third == Texts.EMPTY && (way != ORDERED || count > 3);
             int depth = beginPlace(node, isNaked);
             if (hasEmpty || depth + count > Tree.KEYS || way == ORDERED && count == 0) {
-                fail('s');
+                return notDone('s');
             }
             addToPlace(depth, first);
             addToPlace(depth + 1, second);
@@ -1964,13 +2047,11 @@ public final class GlobalSpan {
             if (way != LOCKED && !isLooking && place[0] >= Job.LOCALS) {
                 remember(depth + count - 1);
             }
+            return true;
         }
 
         /** Makes the place what a reference has ahead of its own subscripts, and tells how many keys that is. */
         private int beginPlace(int node, boolean isNaked) {
-            if (isNaked && job.remembered[0] == Texts.NONE) {
-                fail('n');
-            }
             if (isNaked) {
                 System.arraycopy(job.remembered, 0, place, 0, Tree.KEYS);
                 return Tree.depthOf(place);
@@ -1988,6 +2069,7 @@ public final class GlobalSpan {
 
         /** Remembers so many keys of the place, nothing for 0. */
         private void remember(int keys) {
+            keepPlace();
             for (int key = 0; key < Tree.KEYS; key++) {
                 job.remembered[key] = key < keys ? place[key] : Texts.NONE;
             }
@@ -1995,47 +2077,63 @@ public final class GlobalSpan {
 
         // ---- expressions
 
+        /** The text that an expression is, NONE for an error. Parts are done here, so that few calls stand open. */
         private int value(int node) {
             int a = code.a(node);
             int b = code.b(node);
+            int c = code.c(node);
             char kind = code.kind(node);
             switch (kind) {
                 case '#': return a;
-                case 't': return signs(a, b, code.c(node));
+                case 't': return signs(a, b, c);
                 case 'T': return job.truth;
                 case 'v': case 'g': case 'n': {
-                    refer(node, PLAIN);
+                    if (!refer(node, PLAIN)) {
+                        return Texts.NONE;
+                    }
                     int text = readPlace();
                     return text == Texts.NONE ? Texts.EMPTY : text;
                 }
                 case 'D': case 'O': case 'Q': return asked(kind, a, b);
                 case 'G': {
-                    refer(a, PLAIN);
+                    if (!refer(a, PLAIN)) {
+                        return Texts.NONE;
+                    }
                     int text = readPlace();
                     return text == Texts.NONE ? value(b) : text;
                 }
                 case 'I': {
-                    refer(a, PLAIN);
+                    if (!refer(a, PLAIN)) {
+                        return Texts.NONE;
+                    }
                     int name = place[0];
                     int first = place[1];
                     int second = place[2];
                     int third = place[3];
-                    int more = texts.numberOf(value(b));
+                    int more = value(b);
                     setPlace(name, first, second, third);
-                    int sum = reckoned((long) texts.numberOf(readPlace()) + more);
-                    change(sum);
-                    return sum;
+                    return more == Texts.NONE ? Texts.NONE : increased(texts.numberOf(more));
                 }
-                case '!': return texts.isTrue(value(a)) ? 0 : 1;
-                case 'L': return texts.lengthOf(value(a));
-                case 'S': return value(texts.isTrue(value(a)) ? b : code.c(node));
-                case 'E': case 'P': return part(kind, value(a), value(b), value(code.c(node)));
+                case 'S': {
+                    int text = value(a);
+                    return text == Texts.NONE ? Texts.NONE : value(texts.isTrue(text) ? b : c);
+                }
                 case 'F': return call(a, b);
-                case '+': case '-': case '*': case '/': case '%': return computed(kind, value(a), value(b));
-                case '_': return texts.joined(value(a), value(b));
-                case '=': case '<': case '>': case '[': case ']': case '&': case '|':
-                    return isSo(kind, value(a), value(b)) ? 1 : 0;
-                default: return Texts.EMPTY;
+                default: {
+                    int parts = partsOf(kind);
+                    int first = value(a);
+                    int second = first == Texts.NONE || parts < 2 ? first : value(b);
+                    int third = second == Texts.NONE || parts < 3 ? second : value(c);
+                    return third == Texts.NONE ? Texts.NONE : made(kind, first, second, third);
+                }
+            }
+        }
+
+        private static int partsOf(char kind) {
+            switch (kind) {
+                case '!': case 'L': return 1;
+                case 'E': case 'P': return 3;
+                default: return 2;
             }
         }
 
@@ -2054,7 +2152,9 @@ public final class GlobalSpan {
         }
 
         private int asked(char kind, int reference, int way) {
-            refer(reference, kind == 'O' ? ORDERED : PLAIN);
+            if (!refer(reference, kind == 'O' ? ORDERED : PLAIN)) {
+                return Texts.NONE;
+            }
             Tree tree = treeOf(place[0]);
             if (kind == 'D') {
                 int own = readPlace() == Texts.NONE ? 0 : 1;
@@ -2068,19 +2168,31 @@ public final class GlobalSpan {
             return tree.nextRow(place);
         }
 
-        private int part(char kind, int text, int second, int third) {
-            if (kind == 'E') {
-                return texts.cut(text, texts.numberOf(second), texts.numberOf(third));
+        /** Gives the node at the place the sum of its number and another one. */
+        private int increased(int more) {
+            int sum = reckoned((long) texts.numberOf(readPlace()) + more);
+            if (sum != Texts.NONE) {
+                change(sum);
             }
-            if (second == Texts.EMPTY) {
-                fail('p');
-            }
-            return texts.piece(text, second, texts.numberOf(third));
+            return sum;
         }
 
-        private int computed(char kind, int left, int right) {
-            long one = texts.numberOf(left);
-            long other = texts.numberOf(right);
+        /** What comes of a kind whose parts are done; parts that it has not are not looked at. */
+        private int made(char kind, int first, int second, int third) {
+            switch (kind) {
+                case '!': return texts.isTrue(first) ? 0 : 1;
+                case 'L': return texts.lengthOf(first);
+                case 'E': return texts.cut(first, texts.numberOf(second), texts.numberOf(third));
+                case 'P':
+                    return second == Texts.EMPTY ? noText('p') : texts.piece(first, second, texts.numberOf(third));
+                case '_': return texts.joined(first, second);
+                case '+': case '-': case '*': case '/': case '%':
+                    return computed(kind, texts.numberOf(first), texts.numberOf(second));
+                default: return isSo(kind, first, second) ? 1 : 0;
+            }
+        }
+
+        private int computed(char kind, long one, long other) {
             switch (kind) {
                 case '+': return reckoned(one + other);
                 case '-': return reckoned(one - other);
@@ -2088,17 +2200,13 @@ public final class GlobalSpan {
                 default: break;
             }
             if (other == 0) {
-                fail('z');
-                return 0;
+                return noText('z');
             }
             return reckoned(kind == '/' ? one / other : one % other);
         }
 
         private int reckoned(long number) {
-            if (number <= -Texts.LIMIT || number >= Texts.LIMIT) {
-                fail('o');
-            }
-            return (int) number;
+            return number > -Texts.LIMIT && number < Texts.LIMIT ? (int) number : noText('o');
         }
 
         private boolean isSo(char kind, int left, int right) {
@@ -2120,17 +2228,22 @@ public final class GlobalSpan {
             int parts = 0;
             for (int part = list; part != Code.NO_NODE; part = code.b(part)) {
                 int text = value(code.a(part));
+                if (text == Texts.NONE) {
+                    return Texts.NONE;
+                }
                 if (parts < Job.LOCALS && givenCount < MOST_GIVEN) {
                     given[givenCount] = text;
                     givenCount++;
                     parts++;
                 }
             }
-            beginLine(line);
+            if (!beginLine(line)) {
+                return Texts.NONE;
+            }
             job.save(ALL_LOCALS);
             for (int i = 0; i < parts; i++) {
                 setPlace(i, Texts.NONE, Texts.NONE, Texts.NONE);
-                job.locals.set(place, 0, given[bottom + i]);
+                change(given[bottom + i]);
             }
             givenCount = bottom;
             return outcome(job.depth - 1);
@@ -2149,12 +2262,9 @@ public final class GlobalSpan {
             calls--;
             callBottom = outerBottom;
             if (!isEnded) {
-                fail(failure);
+                return Texts.NONE;
             }
-            if (frame.given == Texts.NONE) {
-                fail('q');
-            }
-            return frame.given;
+            return frame.given == Texts.NONE ? noText('q') : frame.given;
         }
 
         /** Does a call till its end; false if an error ended it. Steps of calls within it count in it as well. */
@@ -2171,8 +2281,7 @@ public final class GlobalSpan {
                 return true;
             }
             job.endFrames(bottom);
-            failure = 'y';
-            return false;
+            return notDone('y');
         }
     }
 }

@@ -2,6 +2,7 @@
 final class Program {
     final GlobalSpan x = new GlobalSpan();
     private int idle = -1;
+    private int nextLine = 10;
 
     int of(char kind, int a, int b, int c) {
         return x.node(kind, a, b, c);
@@ -102,6 +103,70 @@ final class Program {
             s.append(x.outputAt(job, i));
         }
         return s.toString();
+    }
+
+    /** A text of so many characters from a on, up to 40. */
+    int letters(int count) {
+        int five = two('_', x.node('t', 'a', 'b', 'c'), x.node('t', 'd', 'e', 0));
+        int eight = two('_', five, x.node('t', 'f', 'g', 'h'));
+        int more = two('_', eight, two('_', eight, eight));
+        return x.node('E', two('_', more, more), number(1), number(count));
+    }
+
+    /** What letters makes. */
+    static String lettersOf(int count) {
+        StringBuilder s = new StringBuilder();
+        for (int i = 0; i < count; i++) {
+            s.append((char) ('a' + i % 8));
+        }
+        return s.toString();
+    }
+
+    /** A job of a line of its own. */
+    int job(int... commands) {
+        line(nextLine, commands);
+        nextLine++;
+        return x.job(nextLine - 1);
+    }
+
+    /** A job of a line of its own that has made steps. */
+    int ran(int steps, int... commands) {
+        int job = job(commands);
+        x.run(job, steps);
+        return job;
+    }
+
+    /** What a job shows that has only to show an expression; the letter of its error, if it is one. */
+    String shownBy(int node) {
+        int job = ran(1, show(node));
+        return x.state(job) == 'e' ? "error " + x.error(job) : shown(job);
+    }
+
+    private static String told(Check.Call call) {
+        try {
+            return call.make() + " ";
+        } catch (RuntimeException e) {
+            return e.getClass().getSimpleName() + " ";
+        }
+    }
+
+    /** All that can be asked without a change. */
+    String all() {
+        StringBuilder s = new StringBuilder();
+        for (int i = 0; i < 4; i++) {
+            int job = i;
+            s.append(told(() -> x.state(job))).append(told(() -> x.error(job))).append(told(() -> x.truth(job)));
+            s.append(told(() -> x.depth(job))).append(told(() -> x.steps(job))).append(told(() -> shown(job)));
+            s.append(told(() -> x.locks(job))).append(told(() -> x.isDeadlocked(job))).append(told(() -> x.waitsFor(job)));
+            s.append(told(() -> x.level(job))).append(told(() -> x.restarts(job))).append(told(() -> x.nodes(job)));
+        }
+        for (int i = 0; i < 41; i++) {
+            int index = i;
+            s.append(told(() -> x.lookAt(index)));
+        }
+        s.append(x.lookNumber()).append(' ').append(x.written()).append(' ').append(x.journal()).append(' ');
+        s.append(x.lag()).append(x.isSame()).append(x.checksum()).append(told(x::doneShare)).append(told(x::meanSteps));
+        return s.append(x.isSound()).toString();
     }
 
     /** What an expression is for a job that has nothing. */

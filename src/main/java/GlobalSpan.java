@@ -1697,7 +1697,7 @@ public final class GlobalSpan {
                 case 'd': return beginLine(a);
                 case 'f': return beginLoop(node, a, b);
                 case 'z': return endLoop();
-                case 'q': return a == Code.NO_NODE ? quit(Texts.NONE) : quitWith(value(a));
+                case 'q': return quit(a);
                 case 'w': job.save(a); return true;
                 case 'o': return show(value(a));
                 case 'r': job.last().trap = a; return true;
@@ -1793,11 +1793,11 @@ public final class GlobalSpan {
             }
         }
 
-        private boolean quitWith(int text) {
-            return text != Texts.NONE && quit(text);
-        }
-
-        private boolean quit(int text) {
+        private boolean quit(int expression) {
+            int text = expression == Code.NO_NODE ? Texts.NONE : value(expression);
+            if (text == Texts.NONE && expression != Code.NO_NODE) {
+                return false;
+            }
             texts.keep(text);
             job.last().given = text;
             job.endFrames(job.depth - 1);
@@ -2111,8 +2111,15 @@ public final class GlobalSpan {
                     int second = place[2];
                     int third = place[3];
                     int more = value(b);
+                    if (more == Texts.NONE) {
+                        return Texts.NONE;
+                    }
                     setPlace(name, first, second, third);
-                    return more == Texts.NONE ? Texts.NONE : increased(texts.numberOf(more));
+                    int sum = reckoned((long) texts.numberOf(readPlace()) + texts.numberOf(more));
+                    if (sum != Texts.NONE) {
+                        change(sum);
+                    }
+                    return sum;
                 }
                 case 'S': {
                     int text = value(a);
@@ -2168,32 +2175,32 @@ public final class GlobalSpan {
             return tree.nextRow(place);
         }
 
-        /** Gives the node at the place the sum of its number and another one. */
-        private int increased(int more) {
-            int sum = reckoned((long) texts.numberOf(readPlace()) + more);
-            if (sum != Texts.NONE) {
-                change(sum);
-            }
-            return sum;
-        }
-
         /** What comes of a kind whose parts are done; parts that it has not are not looked at. */
         private int made(char kind, int first, int second, int third) {
             switch (kind) {
-                case '!': return texts.isTrue(first) ? 0 : 1;
+                case '!': return truthOf(!texts.isTrue(first));
                 case 'L': return texts.lengthOf(first);
                 case 'E': return texts.cut(first, texts.numberOf(second), texts.numberOf(third));
                 case 'P':
                     return second == Texts.EMPTY ? noText('p') : texts.piece(first, second, texts.numberOf(third));
                 case '_': return texts.joined(first, second);
-                case '+': case '-': case '*': case '/': case '%':
-                    return computed(kind, texts.numberOf(first), texts.numberOf(second));
-                default: return isSo(kind, first, second) ? 1 : 0;
+                case '=': return truthOf(first == second);
+                case '[': return truthOf(texts.contains(first, second));
+                case ']': return truthOf(texts.comesBehind(first, second));
+                case '&': return truthOf(texts.isTrue(first) && texts.isTrue(second));
+                case '|': return truthOf(texts.isTrue(first) || texts.isTrue(second));
+                default: return computed(kind, texts.numberOf(first), texts.numberOf(second));
             }
+        }
+
+        private static int truthOf(boolean isSo) {
+            return isSo ? 1 : 0;
         }
 
         private int computed(char kind, long one, long other) {
             switch (kind) {
+                case '<': return truthOf(one < other);
+                case '>': return truthOf(one > other);
                 case '+': return reckoned(one + other);
                 case '-': return reckoned(one - other);
                 case '*': return reckoned(one * other);
@@ -2207,18 +2214,6 @@ public final class GlobalSpan {
 
         private int reckoned(long number) {
             return number > -Texts.LIMIT && number < Texts.LIMIT ? (int) number : noText('o');
-        }
-
-        private boolean isSo(char kind, int left, int right) {
-            switch (kind) {
-                case '=': return left == right;
-                case '<': return texts.numberOf(left) < texts.numberOf(right);
-                case '>': return texts.numberOf(left) > texts.numberOf(right);
-                case '[': return texts.contains(left, right);
-                case ']': return texts.comesBehind(left, right);
-                case '&': return texts.isTrue(left) && texts.isTrue(right);
-                default: return texts.isTrue(left) || texts.isTrue(right);
-            }
         }
 
         // ---- calls

@@ -53,6 +53,10 @@ public final class BoundCodeTest {
         commandIsStep();
         states();
         endings();
+        errorsOfCommands();
+        withoutMeaning();
+        loopsBehindCalls();
+        partsOfManyCalls();
         Check.finish("BoundCodeTest");
     }
 
@@ -1108,5 +1112,121 @@ public final class BoundCodeTest {
         p.x.crash();
         due("ended by a crash", p.x.state(third), 'x');
         due("its locals stay", p.looked(third, p.local(4)), "1");
+    }
+
+    /** An error in any part of any command is the error of the command, which does nothing then. */
+    private static void errorsOfCommands() {
+        for (int way = 0; way < 15; way++) {
+            Program p = new Program();
+            int one = p.number(1);
+            int zero = p.two('/', one, p.number(0));
+            int wrong = p.global(0, zero);
+            int fine = p.local(0);
+            int[] commands = {p.set(fine, zero), p.set(wrong, one), p.one('k', wrong), p.two('m', wrong, fine),
+                p.two('m', fine, wrong), p.one('i', zero), p.two('c', zero, p.none('h')), p.loop(0, zero, one, one, 1),
+                p.loop(0, one, zero, one, 1), p.loop(0, one, one, zero, 1), p.one('q', zero), p.show(zero),
+                p.lock(-1, fine, wrong), p.lock(zero, fine), p.two('c', one, p.show(zero))};
+            p.line(0, p.show(p.text("t")));
+            int job = p.ran(2, p.trap(0), commands[way], p.show(p.text("x")));
+            due("the error by command " + way, p.x.error(job), 'z');
+            due("one frame", p.x.depth(job), 1);
+            due("the truth stays", p.x.truth(job), 0);
+            due("no lock", p.x.locks(job), 0);
+            due("no value", p.looked(job, p.one('D', fine)), "0");
+            due("no change", p.x.written(), 0);
+            p.x.run(job, 9);
+            due("the trap alone", p.shown(job), "t");
+        }
+        for (int way = 0; way < 24; way++) {
+            Program p = new Program();
+            int one = p.number(1);
+            int zero = p.two('/', one, p.number(0));
+            int fine = p.local(0);
+            int wrong = p.local(0, zero);
+            int[] expressions = {p.two('+', zero, one), p.two('+', one, zero), p.one('!', zero), p.one('L', zero), p.of('E', zero,
+                one, one), p.of('E', one, zero, one), p.of('E', one, one, zero), p.of('P', zero, one, one), p.of('P', one, zero,
+                one), p.of('P', one, one, zero), p.of('S', zero, one, one), p.of('S', one, zero, one),
+                p.of('S', p.number(0), one, zero), wrong, p.one('D', wrong), p.two('O', wrong, 0), p.one('Q', wrong),
+                p.two('G', wrong, one), p.two('G', fine, zero), p.two('I', wrong, one), p.two('I', fine, zero), p.call(0, zero),
+                p.call(0, one, zero), p.local(0, p.local(0, wrong))};
+            p.line(0, p.one('q', one));
+            due("the error of expression " + way, p.shownBy(expressions[way]), "error z");
+        }
+    }
+
+    /** "operands without meaning are not looked at": nor are they done. */
+    private static void withoutMeaning() {
+        for (char kind : "#tvgn+_=<![L]&|DQGITLFO".toCharArray()) {
+            Program p = new Program();
+            int one = p.number(1);
+            int count = p.two('I', p.local(7), p.two('/', one, p.number(0)));
+            int local = p.local(0);
+            int list = p.list(one);
+            boolean isTwo = "+_=<[]&|".indexOf(kind) >= 0;
+            int a = "#tvgF".indexOf(kind) >= 0 ? kind == 't' ? 49 : 1 : kind == 'n' ? list : "DQGIO".indexOf(kind) >= 0 ? local : one;
+            int b = isTwo || kind == 'G' || kind == 'I' ? one : kind == 't' ? 0 : kind == 'v' || kind == 'g' || kind == 'F' ? -1
+                : count;
+            int c = kind == 't' ? 0 : count;
+            p.line(1, p.one('q', one));
+            int job = p.ran(2, p.show(p.global(2, one)), p.show(p.of(kind, a, b, c)), p.none('h'));
+            due("only its own parts of " + kind, p.x.state(job), kind == 'O' ? 'e' : 'r');
+            due("no other is done", p.looked(job, p.one('D', p.local(7))), "0");
+            due("not even far ones", p.of(kind, a, b == count ? -7 : b, c == count ? 1000 : c) > 0, true);
+        }
+        for (char kind : "kmioqwredh".toCharArray()) {
+            Program p = new Program();
+            int one = p.number(1);
+            int wrong = p.show(p.two('I', p.local(7), p.two('/', one, p.number(0))));
+            int local = p.local(0);
+            int a = kind == 'k' || kind == 'm' ? local : kind == 'w' ? 1 : one;
+            int job = p.ran(1, p.of(kind, a, kind == 'm' ? local : wrong, wrong), p.none('u'), p.none('u'));
+            due("only its own parts of " + kind, p.x.state(job) == 'e', false);
+        }
+    }
+
+    /** A call does not move the loops that a 'z' behind it ends. */
+    private static void loopsBehindCalls() {
+        Program p = new Program();
+        int one = p.number(1);
+        p.line(0, p.show(p.call(2)), p.none('z'), p.show(p.text("x")));
+        p.line(1, p.loop(0, one, one, p.number(3), 0), p.one('q', p.text("b")));
+        p.line(2, p.one('q', p.text("a")));
+        int job = p.ran(20, p.loop(0, one, one, p.number(3), 0), p.show(p.call(1)), p.loop(0, one, one, p.number(3), 0));
+        due("ended behind each call", p.shown(job), "aaba");
+        due("done", p.x.state(job), 'd');
+        Program q = new Program();
+        int first = q.number(1);
+        q.line(0, q.trap(3), q.show(q.call(2)), q.show(q.text("x")));
+        q.line(1, q.none('z'));
+        q.line(2, q.show(q.naked(first)));
+        q.line(3, q.show(q.text("t")), q.none('z'));
+        int other = q.ran(20, q.loop(0, first, first, q.number(3), 0), q.show(q.text("!")));
+        due("behind a call that was an error", q.shown(other), "t!");
+    }
+
+    /** As many parts of calls as can wait for the last one of their list, in ten frames. */
+    private static void partsOfManyCalls() {
+        Program p = new Program();
+        int one = p.number(1);
+        int level = p.local(0);
+        int inner = p.call(0, p.two('+', level, one));
+        for (int i = 0; i < 3; i++) {
+            inner = p.call(1, one, one, one, one, one, one, one, inner);
+        }
+        p.line(0, p.two('c', p.two('>', level, p.number(8)), p.one('q', p.number(100))), p.one('q', inner));
+        p.line(1, p.one('q', p.two('+', p.local(7), p.two('*', p.local(0), p.local(6)))));
+        due("three calls for each of eight frames", p.shownBy(p.call(0, one)), "124");
+        Program q = new Program();
+        int first = q.number(1);
+        int deeper = q.call(0, q.two('+', q.local(0), first));
+        for (int i = 0; i < 3; i++) {
+            deeper = q.call(1, first, first, first, first, first, first, first, deeper);
+        }
+        q.line(0, q.one('q', deeper));
+        q.line(1, q.one('q', q.local(7)));
+        int job = q.ran(2, q.trap(2), q.show(deeper));
+        due("too many frames", q.x.error(job), 'f');
+        q.line(3, q.one('q', q.two('_', q.local(6), q.local(7))));
+        due("and all parts are gone", q.shownBy(q.call(3, first, first, first, first, first, first, q.text("six"), q.text("7"))), "six7");
     }
 }

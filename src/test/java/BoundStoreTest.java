@@ -46,6 +46,13 @@ public final class BoundStoreTest {
         lostOnly();
         followed();
         sameValues();
+        sameNames();
+        tenFramesAgain();
+        loopsAgain();
+        framesAgain();
+        framesAbove();
+        textsOfLocks();
+        textsRead();
         Check.finish("BoundStoreTest");
     }
 
@@ -921,6 +928,157 @@ public final class BoundStoreTest {
         for (int i = 1; i < same.length; i++) {
             p.x.run(job, 1);
             due("same behind command " + i, p.x.isSame(), same[i]);
+        }
+    }
+
+    /** isSame is of names too. */
+    private static void sameNames() {
+        for (int name = 1; name <= 3; name++) {
+            Program p = new Program();
+            int one = p.number(1);
+            int job = p.ran(1, p.set(p.global(0), one), p.one('k', p.global(0)), p.set(p.global(name), one), p.none('h'));
+            p.x.flush();
+            p.x.follow(1);
+            due("same", p.x.isSame(), true);
+            p.x.run(job, 2);
+            due("the same value of another global", p.x.isSame(), false);
+            p.x.flush();
+            due("two more", p.x.follow(2), 3);
+            due("same again", p.x.isSame(), true);
+        }
+    }
+
+    /** A transaction that begins in the tenth frame is begun again there. */
+    private static void tenFramesAgain() {
+        for (int depth = 9; depth <= 10; depth++) {
+            Program p = new Program();
+            int one = p.number(1);
+            int node = p.global(0);
+            int isDeep = p.two('<', p.two('I', p.local(0), one), p.number(depth - 1));
+            p.line(0, p.two('c', isDeep, p.of('d', 0, 0, 0)), p.none('B'), p.show(p.one('D', node)), p.none('C'));
+            p.line(1, p.show(p.text("!")));
+            int job = p.ran(depth + 2, p.of('d', 0, 0, 0), p.show(p.text("end")));
+            due("frames", p.x.depth(job), depth);
+            p.ran(1, p.set(node, one));
+            p.x.run(job, 1);
+            due("begun again", p.x.restarts(job), 1);
+            due("frames then", p.x.depth(job), depth);
+            p.x.run(job, 200);
+            due("each frame has its own B and C", p.x.restarts(job), 1);
+            due("to the end", p.shown(job), "01" + "1".repeat(depth - 2) + "end");
+        }
+    }
+
+    /** ".. frames": a loop is as it was, with its step and its last number, whatever loop its frame has meanwhile. */
+    private static void loopsAgain() {
+        Program p = new Program();
+        int one = p.number(1);
+        int node = p.global(0);
+        int isOnce = p.one('!', node);
+        p.line(0, p.loop(0, one, one, p.number(3), 1), p.loop(0, p.number(10), p.number(-5), p.number(-100), 2), p.show(p.text("x")));
+        p.line(1, p.two('c', p.two('=', p.local(0), one), p.none('B')), p.show(p.local(0)), p.two('c', isOnce, p.none('z')),
+            p.two('c', p.none('T'), p.none('z')));
+        p.line(2, p.show(p.local(0)), p.none('C'));
+        int job = p.ran(8, p.of('d', 0, 0, 0));
+        due("in the second loop", p.shown(job), "1");
+        p.x.run(job, 1);
+        due("shown", p.shown(job), "110");
+        p.x.run(p.job(p.set(node, one)), 1);
+        p.x.run(job, 1);
+        due("begun again", p.x.restarts(job), 1);
+        due("the local", p.looked(job, p.local(0)), "1");
+        due("the frames", p.x.depth(job), 3);
+        p.x.run(job, 3 + 4 + 1);
+        due("its step", p.shown(job), "11012");
+        p.x.run(job, 6);
+        due("its last number", p.shown(job), "110123");
+        due("and its end", p.looked(job, p.local(0)), "4");
+        due("in its frame", p.x.depth(job), 2);
+    }
+
+    /** ".. frames": what 'w' saved is as it was, though another frame stood in its place. */
+    private static void framesAgain() {
+        Program p = new Program();
+        int one = p.number(1);
+        int node = p.global(0);
+        p.line(0, p.one('w', 3), p.set(p.local(0), p.text("mine")), p.none('B'), p.show(node), p.two('c', p.one('!', node),
+            p.one('q', -1)), p.none('C'), p.show(p.local(0)));
+        p.line(1, p.set(p.local(0), p.text("else")), p.one('w', 5), p.set(p.local(0), p.text("other")), p.none('C'), p.show(one));
+        int job = p.ran(12, p.set(p.local(0), p.text("first")), p.set(p.local(1), p.text("second")), p.of('d', 0, 0, 0),
+            p.of('d', 1, 0, 0), p.show(p.text("end")));
+        due("ahead of the C", p.looked(job, p.local(0)) + p.looked(job, p.local(1)), "othersecond");
+        p.x.run(p.job(p.set(node, one)), 1);
+        p.x.run(job, 1);
+        due("begun again", p.x.restarts(job), 1);
+        due("in its frame", p.looked(job, p.local(0)) + p.looked(job, p.local(1)), "mine");
+        p.x.run(job, 4);
+        due("shown", p.shown(job), "1mine");
+        due("saved ones are those of the first frame", p.looked(job, p.local(0)) + p.looked(job, p.local(1)), "firstsecond");
+        due("in the outer frame", p.x.depth(job), 1);
+    }
+
+    /** Frames above the one that is gone on with are gone, and what they saved too. */
+    private static void framesAbove() {
+        Program p = new Program();
+        int one = p.number(1);
+        int node = p.global(0);
+        p.line(0, p.show(node), p.one('w', 1), p.set(p.local(0), p.text("c")), p.none('C'), p.show(p.local(0)));
+        p.line(1, p.set(p.local(0), p.text("d")), p.one('w', 1), p.set(p.local(0), p.text("e")), p.show(p.local(0)));
+        int job = p.ran(6, p.set(p.local(0), p.text("a")), p.none('B'), p.of('d', 0, 0, 0), p.of('d', 1, 0, 0), p.show(p.local(0)));
+        p.x.run(p.job(p.set(node, one)), 1);
+        p.x.run(job, 1);
+        due("begun again", p.x.restarts(job), 1);
+        due("one frame", p.x.depth(job), 1);
+        due("the local", p.looked(job, p.local(0)), "a");
+        p.line(0, p.none('C'), p.set(p.local(0), p.text("f")));
+        p.x.run(job, 3);
+        due("another line in its place saves nothing", p.looked(job, p.local(0)), "f");
+        p.x.run(job, 20);
+        due("what the next frame saves", p.shown(job), "ed");
+    }
+
+    /** Names that are locked or waited for are as they were, whatever texts are made later. */
+    private static void textsOfLocks() {
+        Program p = new Program();
+        int one = p.number(1);
+        int two = p.number(2);
+        int fresh = p.two('_', p.text("lock"), p.two('I', p.local(7), one));
+        int other = p.two('_', p.text("text"), p.two('I', p.local(7), one));
+        int job = p.ran(3, p.lock(-1, p.global(0, fresh)), p.show(other), p.show(other), p.none('u'), p.none('h'));
+        int second = p.ran(1, p.lock(two, p.global(0, p.two('_', p.text("text"), two))), p.lock(one, p.global(0, fresh)), p.none('h'));
+        due("another name is free", p.x.locks(second), 1);
+        p.x.run(second, 1);
+        due("the name is not", p.x.truth(second), 0);
+        Program q = new Program();
+        int first = q.number(1);
+        int name = q.two('_', q.text("lock"), q.two('I', q.local(7), first));
+        int text = q.two('_', q.text("text"), q.two('I', q.local(7), first));
+        q.ran(2, q.lock(-1, q.global(0, q.text("lock1"))), q.show(text), q.show(text), q.none('u'), q.none('h'));
+        int waiting = q.ran(1, q.lock(-1, q.global(0, name)), q.none('h'));
+        q.x.run(0, 1);
+        due("waits still", q.x.run(waiting, 1), 1);
+        due("for the name", q.x.waitsFor(waiting), 1);
+        q.x.run(0, 1);
+        q.x.run(waiting, 1);
+        due("has it", q.x.locks(waiting), 1);
+        int third = q.ran(2, q.lock(first, q.global(0, q.text("text1"))), q.lock(first, q.global(0, q.text("lock1"))), q.none('h'));
+        due("and no other one", q.x.locks(third), 1);
+        due("sound", q.x.isSound() && p.x.isSound(), true);
+        due("job", job, 0);
+    }
+
+    /** What was read is as it was, whatever texts are made later. */
+    private static void textsRead() {
+        for (int way = 0; way < 2; way++) {
+            Program p = new Program();
+            int one = p.number(1);
+            int fresh = p.two('_', p.text("read"), p.two('I', p.local(7), one));
+            int other = p.two('_', p.text("text"), p.two('I', p.local(7), one));
+            int job = p.ran(4, p.none('B'), p.show(p.one('D', p.global(0, fresh))), p.show(other), p.show(other), p.none('C'),
+                p.none('h'));
+            p.ran(1, p.set(p.global(0, p.text(way == 0 ? "read1" : "text2")), one));
+            p.x.run(job, 1);
+            due("a text that was read", p.x.restarts(job), 1 - way);
         }
     }
 }

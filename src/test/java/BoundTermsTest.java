@@ -21,6 +21,9 @@ public final class BoundTermsTest {
         rows();
         emptySubscripts();
         orderOfSubscripts();
+        orderBesideOthers();
+        sameTexts();
+        textsStay();
         orderOfNodes();
         kills();
         killsAlone();
@@ -290,8 +293,16 @@ public final class BoundTermsTest {
                 due(where + ", O", p.value(p.two('O', local, 0)), empty == length - 1 && length <= 3 ? "" : "error s");
                 due(where + ", O back", p.value(p.two('O', global, 1)), empty == length - 1 && length <= 3 ? "" : "error s");
                 due(where + ", k", p.x.state(p.ran(1, p.one('k', local))), 'e');
-                due(where + ", m", p.x.state(p.ran(1, p.two('m', local, p.local(1)))), 'e');
             }
+        }
+        for (int way = 0; way < 4; way++) {
+            Program p = new Program();
+            int fine = p.local(1);
+            int empty = p.global(0, p.text(""));
+            int[] ways = {p.two('m', empty, fine), p.two('m', fine, empty), p.set(empty, fine), p.lock(-1, empty)};
+            int job = p.ran(1, ways[way], p.none('h'));
+            due("an empty one by command " + way, p.x.state(job), 'e');
+            due("its error", p.x.error(job), 's');
         }
         Program p = new Program();
         due("a space is not empty", p.value(p.local(0, p.text(" "))), "");
@@ -330,6 +341,87 @@ public final class BoundTermsTest {
             due("the first of two", q.looked(other, q.two('O', none, 0)), inOrder[i]);
             due("the last of two", q.looked(other, q.two('O', none, 1)), inOrder[i + 1]);
         }
+    }
+
+    /** The same, whatever texts were made beside them. */
+    private static void orderBesideOthers() {
+        String[] others = {" ", "~", "a", "b", "0", "aaa"};
+        for (String other : others) {
+            Program p = new Program();
+            int one = p.number(1);
+            p.value(p.text("one"));
+            p.value(p.text("a"));
+            p.value(p.text(other));
+            p.value(p.text("ab"));
+            p.value(p.text(other + "x"));
+            int job = p.ran(4, p.set(p.local(0, p.text("a")), one), p.set(p.local(0, p.text(other + "-")), one),
+                p.set(p.local(0, p.text("ab")), one), p.set(p.local(0, p.text(other + "x")), one));
+            due("behind a", p.looked(job, p.two('O', p.local(0, p.text("a")), 0)), other.equals("a") ? "a-" : other.equals("aaa")
+                ? "aaa-" : "ab");
+            due("ahead of ab", p.looked(job, p.two('O', p.local(0, p.text("ab")), 1)), other.equals("a") ? "a-"
+                : other.equals("aaa") ? "aaax" : "a");
+        }
+    }
+
+    /** The same characters are the same text, and a number is one, however they were made. */
+    private static void sameTexts() {
+        String[] texts = {"0", "5", "-5", "42", "05", "-0", "a", "ab", "", "-", "1234567890"};
+        for (String text : texts) {
+            Program p = new Program();
+            int own = p.text(text);
+            int from = p.number(3);
+            int to = p.number(2 + text.length());
+            int whole = p.two('_', p.text("x,"), p.two('_', own, p.text(",y")));
+            int cut = p.of('E', whole, from, to);
+            int piece = p.of('P', whole, p.text(","), p.number(2));
+            due("cut " + text, p.value(p.two('=', cut, own)) + p.value(p.two('=', own, cut)), "11");
+            due("a piece " + text, p.value(p.two('=', piece, own)) + p.value(p.two('=', own, piece)), "11");
+            due("joined " + text, p.value(p.two('=', p.two('_', p.text(""), own), own)), "1");
+            int job = p.ran(2, p.set(p.local(0, p.two('_', p.text("k"), own)), p.number(7)),
+                p.set(p.local(1, p.of('E', p.two('_', own, p.text("k")), p.number(1), p.number(text.length() + 1))), p.number(8)));
+            due("as a subscript", p.looked(job, p.local(0, p.two('_', p.text("k"), own))), "7");
+            due("as another", p.looked(job, p.local(1, p.two('_', own, p.text("k")))), "8");
+        }
+        String[] alike = {"Aa", "BB", "AaAa", "BBBB", "AaBB", "BBAa", "C#", "Bb", "BC"};
+        for (int i = 0; i < alike.length; i++) {
+            for (int j = 0; j < alike.length; j++) {
+                Program p = new Program();
+                int job = p.ran(2, p.set(p.local(0, p.text(alike[i])), p.number(1)), p.set(p.local(0, p.text(alike[j])),
+                    p.number(2)));
+                due(alike[i] + " and " + alike[j], p.looked(job, p.local(0, p.text(alike[i]))), i == j ? "2" : "1");
+                due("are the same", p.looked(job, p.two('=', p.text(alike[i]), p.text(alike[j]))), i == j ? "1" : "0");
+            }
+        }
+    }
+
+    /** Texts that something has are as they were, whatever texts are made later. */
+    private static void textsStay() {
+        Program p = new Program();
+        int one = p.number(1);
+        int count = p.local(7);
+        int fresh = p.two('_', p.text("new"), p.two('I', count, one));
+        int job = p.job(p.set(p.local(0), fresh), p.set(p.local(1, fresh), fresh), p.show(fresh), p.set(p.global(0, fresh), one),
+            p.show(p.global(1, fresh, one)), p.show(fresh), p.set(p.naked(p.number(2)), p.text("under")), p.show(fresh),
+            p.set(p.local(2), p.call(0, fresh)), p.show(fresh), p.one('k', p.global(3, fresh)), p.show(fresh));
+        p.line(0, p.one('q', p.two('_', p.local(0), p.two('_', p.text("+"), fresh))));
+        p.x.run(job, 12);
+        due("done", p.x.state(job), 'd');
+        due("a value", p.looked(job, p.local(0)), "new1");
+        due("a subscript, done behind the value", p.looked(job, p.one('Q', p.local(1))), "new3");
+        due("the value at it", p.looked(job, p.local(1, p.text("new3"))), "new2");
+        due("a global's subscript", p.looked(job, p.one('Q', p.global(0))), "new5");
+        due("a remembered one", p.looked(job, p.one('Q', p.global(1))), "new6,2");
+        due("of a call", p.looked(job, p.local(2)), "new9+new1");
+        p.x.flush();
+        p.x.follow(99);
+        due("in the replica", p.x.isSame(), true);
+        p.x.crash();
+        due("behind a crash", p.looked(job, p.one('Q', p.global(1))), "new6,2");
+        p.x.look(job, p.two('_', p.text("look"), p.local(0)));
+        p.lookedError(job);
+        p.ran(1, p.show(p.two('_', p.text("other"), p.text("long text"))));
+        due("what a look keeps", "" + p.x.lookAt(0) + p.x.lookAt(4) + p.x.lookAt(7), "ln1");
+        Check.fails("no more of it", java.util.NoSuchElementException.class, () -> p.x.lookAt(8));
     }
 
     /** "nodes are in order by their first subscripts, then by the next, a node ahead of what is below it" */

@@ -97,6 +97,12 @@ final class Program {
         return s.toString();
     }
 
+    /** A look at a new text that is an error. */
+    void lookedError(int job) {
+        int error = x.lookError(job, two('/', two('_', x.node('t', 'e', 'r', 'r'), x.node('t', 'o', 'r', 0)), x.node('#', 0, 0, 0)));
+        Check.same("an error of a look", error, (int) 'z');
+    }
+
     String shown(int job) {
         StringBuilder s = new StringBuilder();
         for (int i = 0; i < x.output(job); i++) {

@@ -22,6 +22,8 @@ public final class RulesTest {
         methods(lines);
         classes(lines);
         longRuns();
+        longErrors();
+        longTexts();
         Check.finish("RulesTest");
     }
 
@@ -75,10 +77,8 @@ public final class RulesTest {
             due(i, "at most 60 lines", end - i < 60);
             due(i, "at most 7 parameters", m.group(5).split(",").length <= 7);
             due(i, "no try where a throw is", !(body.indexOf("try {") >= 0 && body.indexOf("throw new") >= 0));
-            if (m.group(1).length() == 4) {
-                boolean isPublic = "public ".equals(m.group(2));
-                due(i, "the face's names are public, others not", names.contains(m.group(4)) == isPublic);
-            }
+            boolean isPublic = "public ".equals(m.group(2));
+            due(i, "the face's names are public, others not", names.contains(m.group(4)) == isPublic);
         }
     }
 
@@ -128,5 +128,64 @@ public final class RulesTest {
         Check.same("state", p.x.state(job), 'r');
         Check.same("sound", p.x.isSound(), true);
         Check.same("a long run makes " + made + " bytes, at most 4 million", made < 4000000, true);
+    }
+    /** Makes 480 calls of 200 steps, and tells how many bytes they made. */
+    private static long bytesOf(Program p, int line) {
+        int job = p.x.job(line);
+        long before = bytes();
+        for (int call = 0; call < 480; call++) {
+            p.x.run(job, 200);
+        }
+        long made = bytes() - before;
+        Check.same("state", p.x.state(job), 'r');
+        Check.same("steps", p.x.steps(job), 96000);
+        return made;
+    }
+
+    /** Errors of the language are no objects: neither those of steps nor the many ones within calls. */
+    private static void longErrors() {
+        Program p = new Program();
+        int one = p.number(1);
+        p.line(0, p.loop(0, one, p.number(0), one, 1));
+        p.line(1, p.trap(2), p.show(p.call(3)));
+        p.line(2, p.trap(4), p.show(p.naked(one)));
+        p.line(3, p.loop(0, one, p.number(0), one, 5));
+        p.line(5, p.trap(4), p.show(p.local(0, p.two('/', one, p.number(0)))));
+        long made = bytesOf(p, 0);
+        Check.same("errors make " + made + " bytes, at most 100000", made < 100000, true);
+    }
+
+    /** Texts that nothing has are gone behind their step: those in between, those of looks, and those of calls. */
+    private static void longTexts() {
+        Program p = new Program();
+        int one = p.number(1);
+        int up = p.two('I', p.local(1), one);
+        int text = p.two('_', p.two('_', p.text("abcdefgh"), up), p.text("xyz"));
+        p.line(0, p.loop(0, one, p.number(0), one, 1));
+        p.line(1, p.one('i', p.two('[', p.two('_', text, text), text)), p.show(p.one('L', p.call(2, one))));
+        p.line(2, p.one('q', p.of('S', p.two(']', text, p.two('_', text, text)), one, one)));
+        long made = bytesOf(p, 0);
+        Check.same("texts make " + made + " bytes, at most 100000", made < 100000, true);
+        Program q = new Program();
+        int first = q.number(1);
+        q.line(0, q.loop(0, first, first, q.text("999999"), 1));
+        q.line(1, q.none('e'));
+        int job = q.x.job(0);
+        int look = q.two('_', q.two('_', q.two('_', q.text("ab"), q.local(0)), q.text("c")), q.local(0));
+        long before = bytes();
+        for (int call = 0; call < 250; call++) {
+            q.x.run(job, 2);
+            q.x.look(job, look);
+        }
+        long looked = bytes() - before;
+        Check.same("looks make " + looked + " bytes, at most 100000", looked < 100000, true);
+        int error = q.two('/', look, q.number(0));
+        before = bytes();
+        for (int call = 0; call < 250; call++) {
+            q.x.run(job, 2);
+            q.x.lookError(job, error);
+        }
+        looked = bytes() - before;
+        Check.same("looks that are errors make " + looked + " bytes, at most 10000", looked < 10000, true);
     }
 }

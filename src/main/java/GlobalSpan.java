@@ -2069,9 +2069,10 @@ public final class GlobalSpan {
 
         /** Remembers so many keys of the place, nothing for 0. */
         private void remember(int keys) {
-            keepPlace();
             for (int key = 0; key < Tree.KEYS; key++) {
-                job.remembered[key] = key < keys ? place[key] : Texts.NONE;
+                int text = key < keys ? place[key] : Texts.NONE;
+                texts.keep(text);
+                job.remembered[key] = text;
             }
         }
 
@@ -2087,21 +2088,17 @@ public final class GlobalSpan {
                 case '#': return a;
                 case 't': return signs(a, b, c);
                 case 'T': return job.truth;
-                case 'v': case 'g': case 'n': {
-                    if (!refer(node, PLAIN)) {
+                case 'v': case 'g': case 'n': case 'G': {
+                    if (!refer(kind == 'G' ? a : node, PLAIN)) {
                         return Texts.NONE;
                     }
                     int text = readPlace();
-                    return text == Texts.NONE ? Texts.EMPTY : text;
+                    if (text == Texts.NONE) {
+                        return kind == 'G' ? value(b) : Texts.EMPTY;
+                    }
+                    return text;
                 }
                 case 'D': case 'O': case 'Q': return asked(kind, a, b);
-                case 'G': {
-                    if (!refer(a, PLAIN)) {
-                        return Texts.NONE;
-                    }
-                    int text = readPlace();
-                    return text == Texts.NONE ? value(b) : text;
-                }
                 case 'I': {
                     if (!refer(a, PLAIN)) {
                         return Texts.NONE;
@@ -2128,6 +2125,9 @@ public final class GlobalSpan {
                 case 'F': return call(a, b);
                 default: {
                     int parts = partsOf(kind);
+                    if (parts == 0) {
+                        return Texts.EMPTY;
+                    }
                     int first = value(a);
                     int second = first == Texts.NONE || parts < 2 ? first : value(b);
                     int third = second == Texts.NONE || parts < 3 ? second : value(c);
@@ -2136,11 +2136,14 @@ public final class GlobalSpan {
             }
         }
 
+        /** How many expressions are the parts of a kind that is made of these alone. */
         private static int partsOf(char kind) {
             switch (kind) {
                 case '!': case 'L': return 1;
+                case '+': case '-': case '*': case '/': case '%': case '_': case '=': case '<': case '>':
+                case '[': case ']': case '&': case '|': return 2;
                 case 'E': case 'P': return 3;
-                default: return 2;
+                default: return 0;
             }
         }
 

@@ -162,7 +162,8 @@ public final class RulesTest {
         int up = p.two('I', p.local(1), one);
         int text = p.two('_', p.two('_', p.text("abcdefgh"), up), p.text("xyz"));
         p.line(0, p.loop(0, one, p.number(0), one, 1));
-        p.line(1, p.one('i', p.two('[', p.two('_', text, text), text)), p.show(p.one('L', p.call(2, one))));
+        p.line(1, p.one('i', p.two('[', p.two('_', text, text), text)), p.show(p.one('L', p.call(2, one))),
+            p.show(p.global(0, text)), p.show(p.local(0, one, text)));
         p.line(2, p.one('q', p.of('S', p.two(']', text, p.two('_', text, text)), one, one)));
         long made = bytesOf(p, 0);
         Check.same("texts make " + made + " bytes, at most 100000", made < 100000, true);
